@@ -14,7 +14,9 @@ public final class CountyTest {
         blanksAndFigures();
         faultLeavesAll();
         countyStartsAnew();
+        nothingOfEarlierTextsStays();
         tellsCounty();
+        tellsWhoHoldsAtTheEdge();
         tellsHeirs();
         tellsThingsAndWants();
         tellsLog();
@@ -220,6 +222,35 @@ public final class CountyTest {
         due.is("the seed stays", x.seed(0), 44);
     }
 
+    private static void nothingOfEarlierTextsStays() {
+        ThreeHeirs x = Due.of(HALL);
+        Due.feedAll(x, "c1 13;s9;t0 1;l9;w0 0 1;x");
+        due.is("county() with a fault", x.county(), -11);
+        for (int i = 0; i < 3; i++) {
+            Due.feedAll(x, "c7 17;t2 6;");
+            due.is("county() behind a fault", x.county(), 1);
+            due.is("fault() behind a fault", x.fault(), Due.NONE);
+            due.isTrue("as of a new one", Due.stateOf(x).equals(Due.stateOf(Due.of("c7 17;t2 6;"))));
+            due.is("gets(2, 24) without lands", x.gets(2, 24), 0);
+            due.is("agreed(NONE) without wants", x.agreed(Due.NONE), 0);
+        }
+    }
+
+    private static void tellsWhoHoldsAtTheEdge() {
+        ThreeHeirs x = Due.of(HALL);
+        x.hour(5);
+        due.is("told(8) at 5", x.told(8), 2);
+        due.is("told(10) at 5", x.told(10), 8);
+        due.is("note(0, 2) at 5", x.note(0, 2), 2);
+        due.is("note(2, 2) at 5", x.note(2, 2), Due.NOT);
+        due.is("put(2, 2) at 5", x.put(2, 2), 2);
+        due.is("logged(0, 1) at 5", x.logged(0, 1), 2);
+        x.hour(6);
+        due.is("told(8) at 11", x.told(8), 0);
+        due.is("put(2, 2) at 11", x.put(2, 2), 0);
+        due.is("logged(0, 1) at 11", x.logged(0, 1), 0);
+    }
+
     private static void tellsCounty() {
         ThreeHeirs x = Due.of(HALL);
         x.feed('c');
@@ -306,7 +337,9 @@ public final class CountyTest {
         }
         due.is("told(12) of 21", x.told(12), 20);
         due.is("logged(0, 3) of 21", x.logged(0, 3), 8);
-        due.is("logged(19, 2) of 21", x.logged(19, 2), 0);
+        due.is("logged(19, 0) of 21", x.logged(19, 0), 6);
+        due.is("logged(19, 3) of 21", x.logged(19, 3), 2);
+        due.is("logged(18, 3) of 21", x.logged(18, 3), 0);
         due.is("logged(20, 2) of 21", x.logged(20, 2), Due.NONE);
     }
 }

@@ -6,6 +6,7 @@ public final class DeedsTest {
     public static void main(String[] args) {
         hourRefuses();
         hoursPass();
+        enviesAnyOther();
         kindsChange();
         valuesHaveEnds();
         putSets();
@@ -13,7 +14,7 @@ public final class DeedsTest {
         eclipsesDarken();
         driftRefuses();
         driftDraws();
-        driftWithoutThings();
+        driftWithFewThings();
         undoRefuses();
         undoBringsAllBack();
         undoKeepsThirty();
@@ -43,6 +44,35 @@ public final class DeedsTest {
             due.is("known of " + h, x.known(h, 0), 4);
         }
         due.is("envy", x.told(11), 60);
+    }
+
+    private static void enviesAnyOther() {
+        ThreeHeirs x = Due.of("c1 14;l1;");
+        x.hour(24);
+        // One to twelve, noon to two, and eleven hours of the dark.
+        due.is("envy", x.told(11), 9);
+        x = Due.of("c1 14;l1;");
+        x.hour(15);
+        due.is("envy of the first", x.told(11), 9);
+        x = Due.of("c11 23;l1;");
+        x.hour(24);
+        due.is("envy of the dark", x.told(11), 11);
+        x.eclipse(11);
+        x.hour(12);
+        x.hour(11);
+        due.is("purse of the first", x.heir(0, 0), 2);
+        due.is("purse of the middle", x.heir(1, 0), 22);
+        due.is("purse of the dark", x.heir(2, 0), 23);
+        due.is("envy of all but the first", x.told(11), 21);
+        x = Due.of("c11 23;l1;");
+        x.hour(23);
+        due.is("envy of the middle, at dark", x.told(11), 10);
+        x = Due.of("c5 23;l1;");
+        x.hour(24);
+        due.is("envy of the middle", x.told(11), 5);
+        x = Due.of("c11 13;l1;");
+        x.hour(12);
+        due.is("the middle has nothing yet", x.told(11), 11);
     }
 
     private static void kindsChange() {
@@ -184,17 +214,21 @@ public final class DeedsTest {
         due.isTrue("something was set", x.told(12) > 0);
     }
 
-    private static void driftWithoutThings() {
-        ThreeHeirs x = Due.of("c6 18;l1;");
-        ThreeHeirs y = Due.of("c6 18;l1;");
-        seed = 0;
-        x.drift(30);
-        driftByHand(y, 30, 0);
-        y.seed((int) seed);
-        x.keep(0);
-        y.keep(0);
-        due.isTrue("drift() without things", Due.stateOf(x).equals(Due.stateOf(y)));
-        due.is("told(12)", x.told(12), 0);
+    private static void driftWithFewThings() {
+        String[] texts = {"c6 18;l1;", "c6 18;l1;t2 0;"};
+        for (int things = 0; things < 2; things++) {
+            ThreeHeirs x = Due.of(texts[things]);
+            ThreeHeirs y = Due.of(texts[things]);
+            seed = 0;
+            x.drift(30);
+            x.drift(30);
+            driftByHand(y, 60, things);
+            y.seed((int) seed);
+            x.keep(0);
+            y.keep(0);
+            due.isTrue("drift() of " + things, Due.stateOf(x).equals(Due.stateOf(y)));
+            due.isTrue("sets of " + things, things == 0 ? x.told(12) == 0 : x.told(12) > 0);
+        }
     }
 
     private static void undoRefuses() {

@@ -71,6 +71,8 @@ public final class TriedTest {
         due.is("willBe(3, 13)", x.willBe(3, 13), 0);
         x.eclipse(10);
         due.is("willBe(0, 24) by an eclipse", x.willBe(0, 24), 5);
+        x.eclipse(9);
+        due.is("willBe(0, 10) right behind an eclipse", x.willBe(0, 10), 4);
         due.is("willBe(0, 240)", x.willBe(0, 240), 9);
         due.is("willBe(4, 0)", x.willBe(4, 0), Due.UNKNOWN);
         due.is("willBe(-1, 241)", x.willBe(-1, 241), Due.UNKNOWN);
@@ -142,6 +144,8 @@ public final class TriedTest {
         due.is("what 2", x.keepSo(0, 0, 0, 1, 2), Due.OUTSIDE);
         due.is("what -1", x.keepSo(0, 0, 0, 1, -1), Due.OUTSIDE);
         due.is("n 48", x.keepSo(2, 2, 0, 48, 0), 45);
+        due.is("n 1", x.keepSo(2, 2, 0, 1, 0), 0);
+        due.is("n 1 of another", x.keepSo(0, 2, 0, 1, 0), Due.NONE);
         due.is("of none", new ThreeHeirs().keepSo(0, 0, 0, 1, 0), Due.UNKNOWN);
     }
 
@@ -152,6 +156,8 @@ public final class TriedTest {
         due.is("agreed(1): the least of like ones", x.agreed(1), 3);
         due.is("agreed(2): nobody wants it", x.agreed(2), Due.NONE);
         due.is("agreed(3)", x.agreed(3), Due.UNKNOWN);
+        due.is("agreed(0) of one want", Due.of("c6 18;t2 5;w1 0 0;").agreed(0), 0);
+        due.is("agreed(NONE) of one want", Due.of("c6 18;t2 5;w1 0 0;").agreed(Due.NONE), 1);
         due.is("agreed(-2)", x.agreed(-2), Due.UNKNOWN);
         due.is("agreed(NONE) of none", new ThreeHeirs().agreed(Due.NONE), 0);
         due.is("agreed(0) of none", new ThreeHeirs().agreed(0), Due.UNKNOWN);
