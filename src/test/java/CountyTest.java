@@ -73,111 +73,86 @@ public final class CountyTest {
         due.is("told(0) of blanks", x.told(0), 0);
     }
 
-    private static void expectFault(String text, int number, int place) {
-        ThreeHeirs x = new ThreeHeirs();
-        Due.feedAll(x, text);
-        due.is("county() of " + text, x.county(), -10 - number);
-        due.is("fault() of " + text, x.fault(), place);
-        due.is("told(0) of " + text, x.told(0), 0);
-        due.is("told(5) of " + text, x.told(5), 0);
-    }
-
-    private static void expectSound(String text, int things) {
-        ThreeHeirs x = new ThreeHeirs();
-        Due.feedAll(x, text);
-        due.is("county() of " + text, x.county(), things);
-        due.is("fault() of " + text, x.fault(), Due.NONE);
-        due.is("told(0) of " + text, x.told(0), 1);
-    }
-
     private static void faultsOfLetters() {
-        expectFault("t0 0;", 1, 0);
-        expectFault("  s4;", 1, 2);
-        expectFault("x", 1, 0);
-        expectFault(";", 1, 0);
-        expectFault("c1;", 1, 2);
-        expectFault("c;", 1, 1);
-        expectFault("c 1 13 5;", 1, 7);
-        expectFault("c 1 13 5555;", 1, 7);
-        expectFault("c1 13;;", 1, 6);
-        expectFault("c1 13;x", 1, 6);
-        expectFault("c1 13;C1 13;", 1, 6);
-        expectFault("c1,13;", 1, 2);
-        expectFault("c1 13t", 1, 5);
-        expectFault("c1 13;s;", 1, 7);
-        expectFault("c1 13;s1,;", 1, 9);
-        expectFault("c1 13;s1 2;", 1, 9);
-        expectFault("c1 13;s1,2,3,4,5,6,7,8,9,0,1,2,3;", 1, 30);
-        expectFault("c1 13;s1,2,3,4,5,6,7,8,9,0,1,2 ,", 1, 31);
-        expectFault("c1 13;l1,2;", 1, 8);
-        expectFault("c-1 13;", 1, 1);
-        expectFault("c1\t13;", 1, 2);
-        expectFault("c1 13;" + (char) 233, 1, 6);
+        due.fault("t0 0;", 1, 0);
+        due.fault("  s4;", 1, 2);
+        due.fault("x", 1, 0);
+        due.fault(";", 1, 0);
+        due.fault("c1;", 1, 2);
+        due.fault("c;", 1, 1);
+        due.fault("c 1 13 5;", 1, 7);
+        due.fault("c 1 13 5555;", 1, 7);
+        due.fault("c1 13;;", 1, 6);
+        due.fault("c1 13;x", 1, 6);
+        due.fault("c1 13;C1 13;", 1, 6);
+        due.fault("c1,13;", 1, 2);
+        due.fault("c1 13t", 1, 5);
+        due.fault("c1 13;s;", 1, 7);
+        due.fault("c1 13;s1,;", 1, 9);
+        due.fault("c1 13;s1 2;", 1, 9);
+        due.fault("c1 13;s1,2,3,4,5,6,7,8,9,0,1,2,3;", 1, 30);
+        due.fault("c1 13;s1,2,3,4,5,6,7,8,9,0,1,2 ,", 1, 31);
+        due.fault("c1 13;l1,2;", 1, 8);
+        due.fault("c-1 13;", 1, 1);
+        due.fault("c1\t13;", 1, 2);
+        due.fault("c1 13;" + (char) 233, 1, 6);
     }
 
     private static void faultsOfNumbers() {
-        expectFault("c0 13;", 2, 1);
-        expectFault("c12 13;", 2, 1);
-        expectFault("c1 12;", 2, 3);
-        expectFault("c 1  24;", 2, 5);
-        expectFault("c113;", 2, 1);
-        expectFault("c0001 13;", 2, 1);
-        expectFault("c1 9999999999999", 2, 3);
-        expectFault("c0 x", 2, 1);
-        expectFault("c1 13;s10;", 2, 7);
-        expectFault("c1 13;s1, 12;", 2, 10);
-        expectFault("c1 13;t4 0;", 2, 7);
-        expectFault("c1 13;t0 10;", 2, 9);
-        expectFault("c1 13;l0;", 2, 7);
-        expectFault("c1 13;l10;", 2, 7);
-        expectFault("c1 13;t0 0;w3 0 0;", 2, 12);
-        expectFault("c1 13;t0 0;w0 1 0;", 2, 14);
-        expectFault("c1 13;w0 0 0;t0 0;", 2, 9);
-        expectFault("c1 13;t0 0;w0 0000 0;", 2, 14);
-        expectFault("c1 13;t0 0;w0 0 10;", 2, 16);
-    }
-
-    private static String many(String first, String clause, int n) {
-        StringBuilder s = new StringBuilder(first);
-        for (int i = 0; i < n; i++) {
-            s.append(clause);
-        }
-        return s.toString();
+        due.fault("c0 13;", 2, 1);
+        due.fault("c12 13;", 2, 1);
+        due.fault("c1 12;", 2, 3);
+        due.fault("c 1  24;", 2, 5);
+        due.fault("c113;", 2, 1);
+        due.fault("c0001 13;", 2, 1);
+        due.fault("c1 9999999999999", 2, 3);
+        due.fault("c0 x", 2, 1);
+        due.fault("c1 13;s10;", 2, 7);
+        due.fault("c1 13;s1, 12;", 2, 10);
+        due.fault("c1 13;t4 0;", 2, 7);
+        due.fault("c1 13;t0 10;", 2, 9);
+        due.fault("c1 13;l0;", 2, 7);
+        due.fault("c1 13;l10;", 2, 7);
+        due.fault("c1 13;t0 0;w3 0 0;", 2, 12);
+        due.fault("c1 13;t0 0;w0 1 0;", 2, 14);
+        due.fault("c1 13;w0 0 0;t0 0;", 2, 9);
+        due.fault("c1 13;t0 0;w0 0000 0;", 2, 14);
+        due.fault("c1 13;t0 0;w0 0 10;", 2, 16);
     }
 
     private static void faultsOfCounts() {
-        expectFault("c1 13;c1 13;", 3, 6);
-        expectFault("c1 13;cx", 3, 6);
-        expectFault("c1 13;s4;l1; s4;", 3, 13);
-        expectSound(many("c1 13;", "t0 0;", 8), 8);
-        expectFault(many("c1 13;", "t0 0;", 9), 3, 46);
-        expectSound(many("c1 13;", "l9;", 6), 0);
-        expectFault(many("c1 13;", "l9;", 7), 3, 24);
-        expectSound(many("c1 13;t0 0;", "w0 0 0;", 10), 1);
-        expectFault(many("c1 13;t0 0;", "w0 0 0;", 11), 3, 81);
+        due.fault("c1 13;c1 13;", 3, 6);
+        due.fault("c1 13;cx", 3, 6);
+        due.fault("c1 13;s4;l1; s4;", 3, 13);
+        due.sound(Due.many("c1 13;", "t0 0;", 8), 8);
+        due.fault(Due.many("c1 13;", "t0 0;", 9), 3, 46);
+        due.sound(Due.many("c1 13;", "l9;", 6), 0);
+        due.fault(Due.many("c1 13;", "l9;", 7), 3, 24);
+        due.sound(Due.many("c1 13;t0 0;", "w0 0 0;", 10), 1);
+        due.fault(Due.many("c1 13;t0 0;", "w0 0 0;", 11), 3, 81);
     }
 
     private static void faultsAtTheEnd() {
-        expectFault("c", 1, 1);
-        expectFault("c1 13", 1, 5);
-        expectFault("c1 ", 1, 3);
-        expectFault("c1 13;s4,", 1, 9);
-        expectFault("c1 13; w", 1, 8);
-        expectFault("c1 13;t0 0", 1, 10);
-        expectFault("c1 0", 2, 3);
+        due.fault("c", 1, 1);
+        due.fault("c1 13", 1, 5);
+        due.fault("c1 ", 1, 3);
+        due.fault("c1 13;s4,", 1, 9);
+        due.fault("c1 13; w", 1, 8);
+        due.fault("c1 13;t0 0", 1, 10);
+        due.fault("c1 0", 2, 3);
     }
 
     private static void blanksAndFigures() {
-        expectSound("c1 13;", 0);
-        expectSound("c11 23;", 0);
-        expectSound("  c  001   013 ; s 4 , 009 ; t 0 9 ; l 1 ; w 2 0 9 ;  ", 1);
+        due.sound("c1 13;", 0);
+        due.sound("c11 23;", 0);
+        due.sound("  c  001   013 ; s 4 , 009 ; t 0 9 ; l 1 ; w 2 0 9 ;  ", 1);
         ThreeHeirs x = Due.of("c01 13;s0,9;t3 009;l9;w2 000 07;");
         due.is("light(0)", x.light(0), 5);
         due.is("told(4)", x.told(4), 2);
         due.is("thing(0, 0)", x.thing(0, 0), 3);
         due.is("thing(0, 1)", x.thing(0, 1), 9);
         due.is("want(0, 2)", x.want(0, 2), 7);
-        expectSound("c1 13;s1,2,3,4,5,6,7,8,9,0,1,2;", 0);
+        due.sound("c1 13;s1,2,3,4,5,6,7,8,9,0,1,2;", 0);
     }
 
     private static void faultLeavesAll() {

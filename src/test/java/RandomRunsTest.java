@@ -134,7 +134,7 @@ public final class RandomRunsTest {
         }
         due.is("run " + run + ": kind " + kind + " of " + java.util.Arrays.toString(a), got, want);
         boolean isAsking = kind > 1 && kind < 9 || kind > 14 && kind < 27 || kind == 28 || kind == 29 || kind == 31;
-        boolean isRefused = got >= Due.FULL && got <= Due.UNKNOWN;
+        boolean isRefused = Due.isRefusal(got);
         if (before != null && (isAsking || isRefused)) {
             due.isTrue("run " + run + ": nothing changes by kind " + kind, before.equals(Due.stateOf(x)));
         }
