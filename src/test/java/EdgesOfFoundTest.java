@@ -16,6 +16,7 @@ public final class EdgesOfFoundTest {
         lookAtWhatPartsNothing();
         lookAtTheLeastOfLikeOnes();
         lookAtTheLeastGreatestPart();
+        lookAtAgain();
         writeIsOfThingsAndValues();
         twentyAreWritten();
         judgeAtItsEnds();
@@ -151,6 +152,17 @@ public final class EdgesOfFoundTest {
         // Of thing 0 seven, of thing 1 ten: by 0 eleven are alike, by 1 eight.
         due.is("fits(0)", x.fits(0), 17);
         due.is("lookAt() by fewer that are alike", x.lookAt(), 1);
+    }
+
+    private static void lookAtAgain() {
+        ThreeHeirs x = Due.of("c6 18;t2 0;t2 9;");
+        for (int i = 0; i < 3; i++) {
+            due.is("lookAt() once more", x.lookAt(), 0);
+        }
+        ThreeHeirs y = Due.of("c6 18;t2 9;t2 0;");
+        for (int i = 0; i < 3; i++) {
+            due.is("lookAt() once more, of the other", y.lookAt(), 0);
+        }
     }
 
     private static void writeIsOfThingsAndValues() {

@@ -85,6 +85,12 @@ public final class EdgesOfTellingTest {
         due.is("NOTES when it is moved back", x.told(10), 0);
         x.hour(6);
         due.is("NOTES in the morning: the dark man saw all", x.told(10), 0);
+        ThreeHeirs y = Due.of("c6 18;t2 4;");
+        y.note(1, 0);
+        y.hour(5);
+        due.is("NOTES at the last hour of the dark: the first does not know", y.told(10), 1);
+        y.hour(1);
+        due.is("NOTES at the first of the light: he sees", y.told(10), 0);
     }
 
     private static void envyIsNoneAmongTheLike() {
@@ -101,6 +107,15 @@ public final class EdgesOfTellingTest {
         due.is("ENVY of a whole day", x.told(11), 0);
         x.hour(1);
         due.is("ENVY behind one more", x.told(11), 9);
+        // Seven hours of the first, eleven of the middle, five and then six of the dark.
+        ThreeHeirs late = Due.of("c5 23;l9;");
+        late.hour(23);
+        due.is("ENVY of the middle, who has most, at 23", late.told(11), 54);
+        late.hour(1);
+        due.is("ENVY of the middle, who has most, at 24", late.told(11), 45);
+        ThreeHeirs winter = Due.of("c11 23;l9;");
+        winter.hour(24);
+        due.is("ENVY of the dark, who has most, over the first", winter.told(11), 99);
         ThreeHeirs poor = Due.of("c6 18;");
         poor.hour(30);
         due.is("ENVY where there is no rent", poor.told(11), 0);
@@ -216,6 +231,14 @@ public final class EdgesOfTellingTest {
         due.is("logged(0, 0)", x.logged(0, 0), 0);
         due.is("logged(0, 2)", x.logged(0, 2), 3);
         due.is("logged(1, 0)", x.logged(1, 0), Due.NONE);
+        x.hour(6);
+        x.put(1, 9);
+        int[] row = {6, 0, 1, 9};
+        for (int what = 0; what < 4; what++) {
+            due.is("logged(0, " + what + ") at 6", x.logged(0, what), row[what]);
+        }
+        due.is("logged(1, 0) at 6", x.logged(1, 0), 0);
+        due.is("logged(2, 0) at 6", x.logged(2, 0), Due.NONE);
     }
 
     private static void theLogKeeps20() {

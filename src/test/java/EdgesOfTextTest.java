@@ -39,6 +39,7 @@ public final class EdgesOfTextTest {
         faultIsOfTheLatestCounty();
         aFaultLeavesAllButTheText();
         countyBeginsAnew();
+        nothingOfTheEarlierTextStays();
         theSeedStays();
         due.finish();
     }
@@ -436,6 +437,28 @@ public final class EdgesOfTextTest {
         Due.feedAll(x, Edge.HALL);
         due.is("county()", x.county(), 4);
         due.isTrue("as at first", Edge.wholeOf(x).equals(Edge.wholeOf(Edge.hall())));
+    }
+
+    private static void nothingOfTheEarlierTextStays() {
+        ThreeHeirs x = Edge.fullest();
+        Due.feedAll(x, "c6 18;");
+        due.is("county() of the least", x.county(), 0);
+        due.is("gets(2, 1)", x.gets(2, 1), 0);
+        due.isTrue("as of the least alone", Edge.wholeOf(x).equals(Edge.wholeOf(Due.of("c6 18;"))));
+        // A third text is read where the first one was.
+        Due.feedAll(x, ONE);
+        due.is("county() of the third", x.county(), 1);
+        due.is("gets(2, 1) of the third", x.gets(2, 1), 0);
+        due.is("told(2), told(3), told(4) of the third", x.told(2) + x.told(3) + x.told(4), 0);
+        due.is("light(0) of day 3", x.hour(30) + x.hour(30) + x.hour(12) + x.light(0), 30 + 60 + 72 + 6);
+        ThreeHeirs y = new ThreeHeirs();
+        Due.feedAll(y, "c6 18;s9;t2 0;l9;w0 0 0;x");
+        y.county();
+        Due.feedAll(y, "c6 18;s4;t2 0;l1;w0 0 0;");
+        due.is("county() behind a fault", y.county(), 1);
+        due.is("gets(2, 1) behind a fault", y.gets(2, 1), 1);
+        due.is("told(2), told(3), told(4) behind a fault", y.told(2) + y.told(3) + y.told(4), 3);
+        due.is("light(0) behind a fault", y.light(0), 6);
     }
 
     private static void theSeedStays() {

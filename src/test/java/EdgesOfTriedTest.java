@@ -375,9 +375,9 @@ public final class EdgesOfTriedTest {
     }
 
     private static void poorestAtItsEnds() {
-        int[][] rows = {{0, 2}, {0, 22}, {0, 12}, {11, 2}, {2, 10}, {0, 2}};
+        int[][] rows = {{0, 2}, {0, 22}, {0, 12}, {11, 2}, {2, 10}, {0, 2}, {1, 10}};
         String[] texts = {"c1 23;", "c11 13;", "c6 18;s4;", "c6 18;s0,1,2,3,4,5,6,7,8,0,0,9;", "c6 18;s0,4,5,5;",
-            "c1 23;s4,9,5;"};
+            "c1 23;s4,9,5;", "c6 18;s4,5;"};
         for (int i = 0; i < texts.length; i++) {
             for (int what = 0; what < 2; what++) {
                 due.is("poorest(" + what + ") of " + texts[i], Due.of(texts[i]).poorest(what), rows[i][what]);
